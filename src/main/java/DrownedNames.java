@@ -593,8 +593,8 @@ public final class DrownedNames {
         }
 
         int behindBlanks(int from) {
-            int i = from;
-            while (i < length && at(i) == ' ') {
+            int i = Math.max(0, from);
+            while (i < length && bytes[i] == ' ') {
                 i++;
             }
             return i;
@@ -1610,10 +1610,12 @@ public final class DrownedNames {
 
         /** How much all others who are DROWNED would be MISSED, if these had come up. */
         private int withoutThese(int up) {
+            int drowned = ink.drowned() & ~up;
+            int free = ink.free() | up;
             int missed = 0;
             for (int name = 0; name < ministry.names(); name++) {
-                if (!ink.isFree(name) && (up >> name & 1) == 0) {
-                    missed += missedIn(ink.wellOf(name), name, ink.above(name, ink.drowned() & ~up), ink.free() | up);
+                if ((drowned >> name & 1) == 1) {
+                    missed += missedIn(ink.wellOf(name), name, ink.above(name, drowned), free);
                 }
             }
             return missed;
