@@ -648,14 +648,14 @@ public final class DrownedNames {
             System.arraycopy(other.many, 0, many, 0, many.length);
         }
 
-        boolean isFull(int kind) {
-            return many[kind] >= MOST[kind];
-        }
-
-        /** One more CLAUSE of a kind that is not full, as if nothing were told in it. */
-        void open(int kind) {
+        /** One more CLAUSE of a kind, as if nothing were told in it; false: there are as many as may be. */
+        boolean open(int kind) {
+            if (many[kind] >= MOST[kind]) {
+                return false;
+            }
             setUsual(kind, many[kind]);
             many[kind]++;
+            return true;
         }
 
         private void setUsual(int kind, int clause) {
@@ -850,10 +850,9 @@ public final class DrownedNames {
 
         private boolean readClause() {
             int kind = kindOf(tape.at(at));
-            if (kind == NONE || draft.isFull(kind)) {
+            if (kind == NONE || !draft.open(kind)) {
                 return false;
             }
-            draft.open(kind);
             step();
             int told = 0;
             for (int turn = 0; turn < Ministry.ITEMS; turn++) {

@@ -298,9 +298,16 @@ public final class ActTest {
         BENCH.due("60", x.decades(60, -5), 60);
         BENCH.due("60", x.decades(60, Long.MIN_VALUE), 120);
         BENCH.due("no status", x.status(0) + x.status(1) + x.status(2) + x.status(3) + x.status(4), 0);
+        BENCH.due("1", x.decades(1, 0), 121);
         BENCH.due("a year is one act", x.count(12), 40);
         BENCH.due("undo", x.undo(), 39);
-        BENCH.due("a year less", x.count(6), 119);
+        BENCH.due("a year less", x.count(6), 120);
+        for (int i = 0; i < 14; i++) {
+            x.years(60);
+        }
+        BENCH.due("960", x.count(6), 960);
+        BENCH.due("1000", x.decades(40, 1), NONE);
+        BENCH.due("999", x.decades(39, 1), 999);
     }
 
     /** The draws of seed 7, worked out apart from the class. */

@@ -111,7 +111,7 @@ public final class LawTest {
     private static void conditions() {
         String[] held = {"s=3", "s<4", "s>2", "!s=4", "!!s=3", "(s=3)", "s=3&k=1", "s=4|k=1", "s=4&k=1|s=3",
             "s=3|s=4&k=5", "!s=4&k=1", "!(s=3&k=2)", "!(s=4|k=2)", "(s=4|s=3)&(k=1|k=2)", "s+1=2*2", "[s]>[k]",
-            "!s=3|s=3", "s=3&!k=2"};
+            "!s=3|s=3", "s=3&!k=2", "s<4&s=3", "s=3&s>2", "s<4&s>2", "!(s<4&s=4)", "s>2&!s<3"};
         String[] not = {"s=4", "s<3", "s>3", "!s=3", "!!s=4", "(s=4)", "s=3&k=2", "s=4|k=2", "(s=3|s=4)&k=5",
             "!(s=3|s=4)", "!s=3&k=1", "!(s=3)", "s<k", "k>s"};
         for (String condition : held) {

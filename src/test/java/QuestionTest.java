@@ -21,6 +21,7 @@ public final class QuestionTest {
         nets();
         amnesties();
         mosts();
+        mostOfAll();
         known();
         quiet();
         apart();
@@ -66,6 +67,7 @@ public final class QuestionTest {
         BENCH.due("three wells", x.faction(15, 1), 3);
         BENCH.due("one alone", x.faction(8, 0), 1);
         BENCH.due("one alone", x.faction(2, 0), 0);
+        BENCH.due("the first alone", x.faction(1, 1), 1);
         BENCH.due("nobody", x.faction(0, 0), NONE);
         BENCH.due("no such set", x.faction(16, 0), NONE);
         BENCH.due("no such set", x.faction(-1, 0), NONE);
@@ -105,6 +107,7 @@ public final class QuestionTest {
         BENCH.due("one who knows him", x.silence(1), 33);
         BENCH.due("a chain", x.silence(2), 35);
         BENCH.due("all in the end", x.silence(16), 63);
+        BENCH.due("all", x.silence(63), 63);
         BENCH.due("no such set", x.silence(64), NONE);
         BENCH.due("no such set", x.silence(-1), NONE);
         x.dip(1, 0);
@@ -195,6 +198,17 @@ public final class QuestionTest {
         z.seen(0, 1);
         BENCH.due("six sets", z.gone(2, NONE), 6);
         BENCH.due("4 and 2 rather than 6", z.ask(2), 1);
+        DrownedNames both = Bench.ministry("wd20;nf1;n;n;n;n;f;fa2b3");
+        BENCH.due("of four: 3 with both, 2 with one, by each", both.ask(4), 0);
+        both.seen(1, 2);
+        BENCH.due("of four: 2 and 1 rather than 3", both.ask(4), 0);
+        both.seen(0, 2);
+        BENCH.due("one left", both.gone(4, NONE), 1);
+        DrownedNames full = Bench.ministry("wd20;nf1;n;n;f;fa1b2");
+        full.seen(1, 2);
+        BENCH.due("of two: both gaps, parted by neither", full.ask(2), 0);
+        BENCH.due("all three", full.gone(3, 0), 7);
+        BENCH.due("all three", full.gone(3, NONE), 1);
     }
 
     private static void games() {
@@ -283,6 +297,11 @@ public final class QuestionTest {
         DrownedNames deep = Bench.ministry("sd2;wd30;ns4f1;ns1f0");
         deep.dip(0, 0);
         BENCH.due("eight drops: never", deep.odds(0, 4), 0);
+        DrownedNames three = Bench.ministry("wd30;ns3f1;ns5f0;ns1f0");
+        three.dip(0, 0);
+        BENCH.due("three drops: by all", three.odds(0, 1), 1000000000);
+        three.dip(2, 0);
+        BENCH.due("four drops: by five and seven", three.odds(0, 1), 666666667);
     }
 
     private static void shares() {
@@ -298,6 +317,9 @@ public final class QuestionTest {
         BENCH.due("0", x.shares(0, 0), 0);
         BENCH.due("1000", x.shares(0, 1000), NONE);
         BENCH.due("-1", x.shares(0, -1), NONE);
+        DrownedNames drop = Bench.ministry("w;w;ns1f1;n");
+        drop.dip(0, 1);
+        BENCH.due("a drop in all", drop.shares(1, 7), 7);
         BENCH.due("no such well", x.shares(3, 1), NONE);
         BENCH.due("no such well", x.shares(-1, 1), NONE);
     }
@@ -328,6 +350,8 @@ public final class QuestionTest {
         x.dip(2, 1);
         Bench.hold(x, "y:a+w");
         BENCH.due("nothing above him then", x.most(0), 0);
+        Bench.hold(x, "y:k*9+a*[s+5]");
+        BENCH.due("each is known by the other free one: the lowest", x.most(0), 0);
         x.dip(0, 0);
         BENCH.due("the only one", x.most(0), 1);
     }
@@ -392,6 +416,24 @@ public final class QuestionTest {
         BENCH.due("hats", x.most(7), 5);
     }
 
+    private static void mostOfAll() {
+        DrownedNames x = Bench.ministry("wd9;wd30;wd2;wd8;ns1f1;ns3f2;ns2f1;ns5f4;ns1f3;ns5f4;ns1f4");
+        BENCH.due("longest", x.most(5), 3);
+        BENCH.due("deepest", x.most(3), 1);
+        BENCH.due("dearest", x.most(6), 4);
+        x.dip(4, 1);
+        BENCH.due("dearest of those left", x.most(6), 1);
+        DrownedNames last = Bench.ministry("wd1;wd2;wd3;ns1f1;ns2f0;ns3f0");
+        BENCH.due("longest", last.most(5), 2);
+        BENCH.due("deepest", last.most(3), 2);
+        BENCH.due("dearest", last.most(6), 0);
+        DrownedNames alike = Bench.ministry("w;nf1;n");
+        BENCH.due("longest of two alike", alike.most(5), 0);
+        BENCH.due("dearest of two alike", alike.most(6), 0);
+        DrownedNames second = Bench.ministry("w;ns1f1;ns2");
+        BENCH.due("the second is the longest", second.most(5), 1);
+    }
+
     private static void known() {
         DrownedNames none = new DrownedNames();
         BENCH.due("no ministry", none.known(0), NONE);
@@ -410,6 +452,11 @@ public final class QuestionTest {
         BENCH.due("no ministry", none.quiet(1), NONE);
         DrownedNames x = Bench.ministry("wd20;ns5f1;ns1");
         BENCH.due("nobody is missed", x.quiet(1), NONE);
+        DrownedNames little = Bench.ministry("w;ns1f1;nf2;nf1");
+        little.dip(0, 0);
+        BENCH.due("one a year", little.quiet(1), 1);
+        BENCH.due("one a year", little.quiet(999), 999);
+        BENCH.due("one a year", little.quiet(1000), NONE);
         x.dip(0, 0);
         BENCH.due("one year", x.quiet(7), 1);
         BENCH.due("two years", x.quiet(8), 2);

@@ -48,6 +48,10 @@ public final class TextTest {
             BENCH.due("feed " + i, x.feed(-1, 0x20202020, 0x41414141, 0x80808080, 0x7F7F7F7F), 20 * i);
         }
         BENCH.due("a byte too much", x.feed(0, 0, 0, 0, 1), Bench.NONE);
+        BENCH.due("a byte too much", x.feed(0, 0, 0, 1 << 8, 0), Bench.NONE);
+        BENCH.due("a byte too much", x.feed(0, 0, 1 << 16, 0, 0), Bench.NONE);
+        BENCH.due("a byte too much", x.feed(0, -1 << 24, 0, 0, 0), Bench.NONE);
+        BENCH.due("a byte too much", x.feed(1, 0, 0, 0, 0), Bench.NONE);
         BENCH.due("nothing more", x.feed(0, 0, 0, 0, 0), 240);
         BENCH.due("bytes above 127 are wrong", x.fault(0), 0);
         x.end(239);
@@ -120,6 +124,9 @@ public final class TextTest {
         ministry("wd30;nf1;n", -1);
         ministry("wd31", 3);
         ministry("wr2", 2);
+        ministry("wr0;nf1o0;ns1", -1);
+        ministry("nf0s1o0;nf1;w", 13);
+        ministry("nf1;nf0;w;fa0b1;fa1b0", -1);
         ministry("wr1;nf1;n", -1);
         ministry("ns0", 2);
         ministry("ns6", 2);
