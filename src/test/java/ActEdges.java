@@ -436,6 +436,15 @@ final class ActEdges {
         }
         doc.due("the 41st", x.undo(), NONE);
         doc.due("the first stays", x.rule(1), 1);
+        DrownedNames four = Bench.ministry("sc9;wd1;wd2;wd3;wd4;nf1;n;n;n;n;n;n");
+        four.dip(6, 3);
+        four.fill(3);
+        four.fill(3);
+        four.undo();
+        doc.due("the fourth well", four.well(3, 0), 5);
+        doc.due("the third well", four.well(2, 0), 3);
+        doc.due("the seventh name", four.layer(3, 0), 6);
+        doc.due("coins", four.rule(1), 8);
         DrownedNames y = Bench.ministry("sc99;wd9;nf1;n;n");
         y.dip(2, 0);
         y.years(1);

@@ -57,7 +57,28 @@ public final class FaceTest {
         }
         Class<?>[] thrown = face.getMethod("name", int.class, int.class).getExceptionTypes();
         bench.due("name throws", thrown.length == 1 && thrown[0] == java.util.NoSuchElementException.class, true);
+        nested(bench, face, openNames);
         bench.finish();
+    }
+
+    /** Rules 1, 5 and 11 for the classes inside: static, not open to all, few fields, no static state, names of their own. */
+    private static void nested(Bench bench, Class<?> face, Set<String> openNames) {
+        for (Class<?> inside : face.getDeclaredClasses()) {
+            int modifiers = inside.getModifiers();
+            bench.due(inside + " static and not open", Modifier.isStatic(modifiers)
+                    && !Modifier.isPublic(modifiers) && !Modifier.isProtected(modifiers), true);
+            int fields = 0;
+            for (Field field : inside.getDeclaredFields()) {
+                boolean constant = Modifier.isStatic(field.getModifiers());
+                fields += constant ? 0 : 1;
+                bench.due(field + " final", !constant || Modifier.isFinal(field.getModifiers()), true);
+            }
+            bench.due("at most some twenty fields: " + inside, fields <= 20, true);
+            for (Method method : inside.getDeclaredMethods()) {
+                boolean hidden = Modifier.isPrivate(method.getModifiers());
+                bench.due("private, named as a public one: " + method, hidden && openNames.contains(method.getName()), false);
+            }
+        }
     }
 
     private static String signature(Method method) {

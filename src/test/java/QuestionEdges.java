@@ -110,6 +110,7 @@ final class QuestionEdges {
         }
         doc.due("seven", all.well(0, 3), 7);
         doc.due("the seventh", all.layer(0, 6), 6);
+        doc.due("no eighth", all.layer(0, 7), NONE);
     }
 
     private void reach() {
@@ -444,6 +445,11 @@ final class QuestionEdges {
         doc.due("an empty well", x.game(0, 1, 1, 9, 8, 0), -9);
         doc.due("an empty well", x.game(0, 1, 1, 9, 8, 1), -8);
         doc.due("drowned ones", x.game(2, 3, 0, 0, 4, 1), -4);
+        doc.due("0: nobody comes up, nor is it name 0", x.game(2, 3, 0, 0, 0, 0), 0);
+        DrownedNames drop = Bench.ministry("w;ns1f1;nf0;n");
+        drop.dip(0, 0);
+        doc.due("0: not the one of a drop either", drop.game(1, 2, 0, 0, 0, 0), 0);
+        doc.due("1: he comes up", drop.game(1, 2, 0, 1, 0, 0), 4);
     }
 
     private void game() {
@@ -630,6 +636,11 @@ final class QuestionEdges {
         empty.dip(0, 1);
         empty.dip(1, 2);
         doc.due("a well with nobody in it", empty.most(2), 0);
+        DrownedNames full = Bench.ministry("wd20;wd20;nf1;n;nf3;nf2");
+        Bench.hold(full, "y:k*9+1");
+        full.dip(0, 0);
+        full.dip(1, 1);
+        doc.due("more by each, both alike: the lowest", full.most(2), 0);
         DrownedNames over = Bench.ministry("wd20;wd20;ns2f2;ns5;ns1");
         Bench.hold(over, "y:a");
         over.dip(2, 0);
@@ -664,6 +675,7 @@ final class QuestionEdges {
         x.dip(4, 2);
         doc.due("drowned, too", x.most(5), 4);
         doc.due("of two alike the lowest", Bench.ministry("w;ns1f1;ns3;ns3").most(5), 1);
+        doc.due("all alike", Bench.ministry("w;nf1;n").most(5), 0);
         doc.says(TERMS, "DEAREST: the free one whom most free ones KNOW (of several the lowest, all).");
         DrownedNames y = Bench.ministry("wd30;nf1;nf2;nf1;nf2;nf0");
         doc.due("1 and 2 alike", y.most(6), 1);

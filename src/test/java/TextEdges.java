@@ -258,6 +258,10 @@ final class TextEdges {
         missed("y:!s=3?5", 0);
         missed("y:!s=3|s=3?5", 5);
         missed("y:!(s=2|k=2)?5", 5);
+        missed("y:!s=2&k=1?5", 5);
+        missed("y:s=3&k<2&s>2?5", 5);
+        missed("y:k<2&!s>3&s=3?5", 5);
+        missed("y:s>2&!k>1&!k<1?5", 5);
         doc.says(TERMS, "(A CLAUSE that goes on with ! or ( behind its : has a CONDITION.)");
         wrongLaw("y:(s", ")*2");
         wrongLaw("y:(s+1", ")");
@@ -370,6 +374,11 @@ final class TextEdges {
         for (String text : "|   |w;|w; |wd|wd |w;nf1;n;|s|w;nf".split("\\|")) {
             wrong(text, "");
         }
+        wrong(" ".repeat(240), "");
+        wrongLaw(" ".repeat(240), "");
+        wrong("w;nf1;" + " ".repeat(234), "");
+        right("w;nf1;n" + " ".repeat(233));
+        rightLaw(" ".repeat(237) + "y:1");
         for (String text : new String[] {"", "  ", "y", "y ", "y:", "y:1+", "y:1* ", "y:[1", "y:[[1]", "y:(s=1", "y:!s=1",
             "y:s=1", "y:s=", "y:s=1?", "y:s=1&", "y:s=1|", "y:1;", "y:1;y", "y:1; "}) {
             wrongLaw(text, "");
@@ -536,6 +545,12 @@ final class TextEdges {
         doc.due("as it was", x.count(4), 7);
         x.end(3);
         doc.due("what was cut is gone", x.end(4), false);
+        x.end(0);
+        Bench.tell(x, "w   ");
+        x.end(1);
+        doc.due("blanks that were cut count for nothing", x.fault(0), 1);
+        Bench.tell(x, ";nf1;n");
+        doc.due("nor do they stand between", x.text(0), 2);
     }
 
     private void fault() {
@@ -595,7 +610,10 @@ final class TextEdges {
         doc.dueStatus(x, 0, 0, 1, 0, 0);
         doc.says(5, "how many NAMES");
         doc.due("two", Bench.found(x, SMALL), 2);
-        doc.due("seven", Bench.found(x, "w;nf1;n;n;n;n;n;n"), 7);
+        doc.due("seven", Bench.found(x, "w;w;w;w;nf6;nf6;nf6;nf6;nf6;nf6;n;fa6b5"), 7);
+        doc.due("a faction in two of four wells", x.faction(127, 0), 111);
+        doc.due("two again", Bench.found(x, "wd2;nf1;n"), 2);
+        doc.due("no room in a second well", x.faction(3, 0), NONE);
     }
 
     private void textOfLaw() {
