@@ -593,7 +593,7 @@ public final class DrownedNames {
         }
 
         int behindBlanks(int from) {
-            int i = Math.max(0, from);
+            int i = from < 0 ? 0 : from;
             while (i < length && bytes[i] == ' ') {
                 i++;
             }
@@ -603,7 +603,7 @@ public final class DrownedNames {
         /** How many digits stand at once from there on, counted up to most. */
         int digitsFrom(int from, int most) {
             int many = 0;
-            while (many < most && at(from + many) >= '0' && at(from + many) <= '9') {
+            for (int i = from; i >= 0 && i < length && many < most && bytes[i] >= '0' && bytes[i] <= '9'; i++) {
                 many++;
             }
             return many;
@@ -611,8 +611,8 @@ public final class DrownedNames {
 
         int number(int from, int digits) {
             int number = 0;
-            for (int i = 0; i < digits; i++) {
-                number = number * 10 + at(from + i) - '0';
+            for (int i = from; i >= 0 && i < length && i < from + digits; i++) {
+                number = number * 10 + bytes[i] - '0';
             }
             return number;
         }
@@ -1028,7 +1028,7 @@ public final class DrownedNames {
         }
 
         private static int bounded(long number) {
-            return (int) Math.max(-BOUND, Math.min(BOUND, number));
+            return (int) (number < -BOUND ? -BOUND : number > BOUND ? BOUND : number);
         }
     }
 
@@ -1070,7 +1070,7 @@ public final class DrownedNames {
             if (tape.at(at) != sign) {
                 return false;
             }
-            step();
+            at = tape.behindBlanks(at + 1);
             return true;
         }
 
@@ -1217,8 +1217,7 @@ public final class DrownedNames {
                 return false;
             }
             draft.add(Law.NUMBER, tape.number(at, digits));
-            at += digits - 1;
-            step();
+            at = tape.behindBlanks(at + digits);
             return true;
         }
 

@@ -1,6 +1,7 @@
 import java.nio.charset.StandardCharsets;
 import java.nio.file.Files;
 import java.nio.file.Path;
+import java.util.Arrays;
 import java.util.regex.Matcher;
 import java.util.regex.Pattern;
 
@@ -37,6 +38,11 @@ public final class LanguageTest {
         return many;
     }
 
+    /** All rows are made in constructors and used again, so that a run's calls fit in their room (rule 12). */
+    private static boolean isConstructor(String head) {
+        return head.trim().matches("(public |private )?[A-Z]\\w*\\(.*");
+    }
+
     /** A method begins with its head and ends with a lone brace as far in. */
     private static void shortMethods(String source) {
         String[] lines = source.split("\n");
@@ -50,6 +56,10 @@ public final class LanguageTest {
                 }
                 BENCH.due("at most sixty lines: " + lines[i].trim(), end - i <= 60, true);
                 BENCH.due("at most seven parameters: " + lines[i].trim(), matcher.group(2).split(",").length <= 7, true);
+                if (!isConstructor(lines[i])) {
+                    String body = String.join("\n", Arrays.copyOfRange(lines, i, end));
+                    BENCH.due("makes nothing: " + lines[i].trim(), places(body, "(?<!throw )\\bnew\\b"), 0);
+                }
             }
         }
     }

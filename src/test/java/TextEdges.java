@@ -460,6 +460,11 @@ final class TextEdges {
         doc.says(TERMS, "a seventh f");
         wrong("f;f;f;f;f;f;", "f");
         wrong("f;f;w;f;f;f;f;", "fa9");
+        // No clause can follow the eighteenth, yet each kind is named as wrong at its letter, not at the ; ahead of it.
+        String full = "s;w;w;w;w;nf1;n;n;n;n;n;n;f;f;f;f;f;f;";
+        for (String kind : new String[] {"s", "w", "n", "f", ""}) {
+            wrong(full, kind);
+        }
         doc.says(TERMS, "a seventh of ( [ ! at it.");
         wrongLaw("y:((((((", "(s=1)))))))?1");
         wrongLaw("y:[[[[[[", "[1]]]]]]]");
